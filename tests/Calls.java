@@ -5,6 +5,8 @@ final class Calls {
 
     static long call(KitchenSheets x, String name, long... a) {
         switch (name) {
+            case "top": return x.top();
+            case "bottom": return x.bottom();
             case "tray": return bit(x.tray((int) a[0], (int) a[1], (int) a[2]));
             case "write": return bit(x.write((int) a[0], (int) a[1], a[2]));
             case "read": return x.read((int) a[0], (int) a[1]);
