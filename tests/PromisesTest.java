@@ -192,6 +192,8 @@ public final class PromisesTest {
         T.due("close together", Asked.land(x, "ask a2;ask\nb  3 ;law b by a8 8 0\n0 0 0016;door 1 2;door 99 0;walk99;cards0 16;"), 2);
         T.due("told", x.told(1) * 1000000 + x.told(4) * 10000 + x.told(5) * 100 + x.told(6), 2990016);
         T.due("weight", x.weight(1, false, 1, 2), 16);
+        T.due("from a to z", Asked.land(x, "ask az 2;ask azz 2;law az 15 1;walk 1;"), 2);
+        T.due("walk 1", x.told(4), 1);
         T.due("words of RULES are names", Asked.land(x, "ask flag 2;ask or 3;ask abcdefgh 4;mind or by flag 16 0 0 0 0 16;"), 3);
         T.due("six", Asked.land(x, "ask a 2;ask b 2;ask c 2;ask d 2;ask e 2;ask f 2;"), 6);
         StringBuilder doors = new StringBuilder();
@@ -493,6 +495,11 @@ public final class PromisesTest {
         T.fraction(x, "it is made", x.odds(0, 1), 1, 1);
         x.card(0, 1);
         T.refused(x, "made ones say no", x.odds(0, 8), 6);
+        Asked.land(x, "ask a 2;ask b 2;law a 12 4;mind a 3 13;law b 5 11;door 0 0;");
+        Asked.sheet(x, 0, 0, 1, 2, 0, 1);
+        T.due("law of both", x.sheetWeight(0, false), 132);
+        T.due("mind of both", x.sheetWeight(0, true), 24);
+        T.fraction(x, "half from 1", x.half(0, 1), 8, 21);
         Asked.land(x, "door 5 5;");
         Asked.sheet(x, 0, 0, 1, 2);
         T.due("without questions", x.sheetWeight(0, false), 1);
@@ -668,6 +675,8 @@ public final class PromisesTest {
         T.due("4 by 7 is 9 and more", x.doubtful(8, 9), 11);
         T.due("but not 10", x.doubtful(8, 10), 0);
         T.due("both weigh 0", x.doubtful(16, 0), 11);
+        T.due("share 0", x.doubtful(0, 0), 31);
+        T.due("share 0", x.doubtful(0, 1), 0);
         x.card(1, 2);
         T.due("by cards", x.doubtful(8, 12), 2);
         T.refused(x, "share", x.doubtful(17, 0), 1);
@@ -711,7 +720,11 @@ public final class PromisesTest {
         test("late 660 or amiss or same 1 and not short 20", 15);
         test("not not not not not not not amiss", 25);
         test("(((((((amiss)))))))", 6);
-        KitchenSheets x = with("flag made 0;flag card 2;");
+        KitchenSheets x = with("flag made 8;flag made 9;");
+        Asked.land(x, "ask a 2;door 0 0;");
+        Asked.sheet(x, 0, 0, 1, 2, 0);
+        T.due("by SHARE 8 just 8", x.flagged(0) * 10 + x.flagged(1), 10);
+        x = with("flag made 0;flag card 2;");
         Asked.land(x, "ask a 2;law a 0 16;mind a 0 16;door 0 0;");
         Asked.sheet(x, 0, 0, 1, 2, 0);
         T.due("not, if there are none", x.flagged(0), 0);
@@ -924,7 +937,15 @@ public final class PromisesTest {
         T.due("SHEETS and RULES", x.told(2) * 10 + x.told(3), 51);
         T.due("CARDS", x.look(1, 4), 2);
         T.due("TRUTH", x.look(0, 5) * 100 + x.look(1, 5) * 10 + x.look(1, 6), 231);
+        long[][] kept = {{0, 0, 600, 620}, {0, 1, 630, 650}, {0, 2, 640, 660}, {0, 0, 690, 700}, {1, 1, 600, 610}};
+        for (int i = 0; i < 5; i++) {
+            for (int what = 0; what < 4; what++) {
+                T.due("SHEET " + i + " look " + what, x.look(i, what), kept[i][what]);
+            }
+        }
         T.due("ANSWERS", x.look(0, 7) * 10 + x.look(0, 8), 0);
+        T.due("ANSWERS", x.look(1, 7) * 10 + x.look(1, 8), 11);
+        T.due("the RULE itself", x.flagged(0), 31 - 16);
         T.due("the tape stays", x.feed(0, 0, 0, 0, 0), 40);
         T.refused(x, "it is gone then", x.back(), 6);
         T.due("WEIGHTS", x.weight(1, true, 1, 1), 16);

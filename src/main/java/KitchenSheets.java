@@ -778,7 +778,7 @@ public final class KitchenSheets {
         }
 
         void fail(int fault) {
-            if (isSound()) {
+            if (faultKind == 0) {
                 faultKind = kind == BAD ? FAULT_TOKEN : fault;
                 faultPlace = place;
             }
@@ -1228,41 +1228,30 @@ public final class KitchenSheets {
         }
 
         private void takeTest(Rules rules, int within) {
+            int inner = within;
+            while (inner < MOST_WITHIN && tokens.word == NOT) {
+                tokens.advance();
+                inner++;
+            }
             int step = stepOf(tokens.word);
-            boolean isBracket = tokens.isSign('(');
-            if (step == 0 && !isBracket) {
+            if (step == 0 && !tokens.isSign('(')) {
                 tokens.fail(FAULT_STAND);
-                return;
-            }
-            if (within >= MOST_WITHIN) {
+            } else if (inner >= MOST_WITHIN) {
                 tokens.fail(FAULT_WITHIN);
-                return;
-            }
-            if (isBracket) {
+            } else if (step == 0) {
                 tokens.advance();
-                takeTerms(rules, within + 1);
+                takeTerms(rules, inner + 1);
                 tokens.takeSign(')');
-            } else if (step == STEP_NOT) {
-                tokens.advance();
-                takeTest(rules, within + 1);
-                rules.addStep(STEP_NOT, 0);
-            } else {
-                takePlainTest(rules, step);
-            }
-        }
-
-        private void takePlainTest(Rules rules, int step) {
-            if (tests >= MOST_TESTS) {
+            } else if (tests >= MOST_TESTS) {
                 tokens.fail(FAULT_TOO_MANY);
-                return;
+            } else {
+                tests++;
+                tokens.advance();
+                rules.addStep(step, step == STEP_AMISS ? 0 : tokens.takeNumberWithin(0, mostOf(step)));
             }
-            tests++;
-            tokens.advance();
-            int number = 0;
-            if (step != STEP_AMISS) {
-                number = tokens.takeNumberWithin(0, mostOf(step));
+            for (int i = within; i < inner; i++) {
+                rules.addStep(STEP_NOT, 0);
             }
-            rules.addStep(step, number);
         }
 
         private static int mostOf(int step) {
@@ -1572,7 +1561,7 @@ public final class KitchenSheets {
             view(viewed);
             int most = state.rules.goesByAnswers(rule) ? state.land.questions : 0;
             for (int others = 0; others <= most; others++) {
-                int row = search(rule, 0, 0, others);
+                int row = search(this, rule, 0, 0, others);
                 if (row != NONE) {
                     return row;
                 }
@@ -1581,19 +1570,20 @@ public final class KitchenSheets {
         }
 
         // The first row with so many other ANSWERS from a QUESTION on that is not flagged; NONE if there is none.
-        private int search(int rule, int question, int row, int others) {
-            int rest = state.land.questions - question;
+        private static int search(Judge judge, int rule, int question, int row, int others) {
+            Land land = judge.state.land;
+            int rest = land.questions - question;
             if (others < 0 || others > rest) {
                 return NONE;
             }
             if (rest <= 0) {
-                suppose(row);
-                return flags(rule) ? NONE : row;
+                judge.suppose(row);
+                return judge.flags(rule) ? NONE : row;
             }
-            int own = answerIn(state.answers[sheet], question);
-            for (int a = 0; a < state.land.choices[question]; a++) {
+            int own = answerIn(judge.state.answers[judge.sheet], question);
+            for (int a = 0; a < land.choices[question]; a++) {
                 int left = a == own ? others : others - 1;
-                int hiding = search(rule, question + 1, withAnswer(row, question, a), left);
+                int hiding = search(judge, rule, question + 1, withAnswer(row, question, a), left);
                 if (hiding != NONE) {
                     return hiding;
                 }
