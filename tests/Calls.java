@@ -1,5 +1,12 @@
+import java.util.Arrays;
+import java.util.List;
+
 /** Each method of the face by its name: a boolean counts 1 or 0. */
 final class Calls {
+    /** The calls that give false where others give NONE. */
+    static final List<String> FALSE_IF_REFUSED = Arrays.asList("tray", "write", "pour", "alter", "card", "odds", "half",
+        "twins", "strange", "goes", "number", "bounds");
+
     private Calls() {
     }
 

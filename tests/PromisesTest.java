@@ -1,8 +1,5 @@
 /** For each promise of the document ordinary calls, the edges that it names, and wrong ones; worked out by hand. */
 public final class PromisesTest {
-    private static final String LAND = "ask age 2;ask vote 2;law age 8 8;law vote by age 12 4 4 12;"
-        + "mind vote by age 16 0 0 16;door 0 0;door 10 0;door 0 30;walk 5;cards 12 4;";
-
     private static final Asked T = new Asked();
 
     public static void main(String[] args) {
@@ -42,20 +39,8 @@ public final class PromisesTest {
         T.end("PromisesTest");
     }
 
-    /** SHEETS 0 to 3 are of ASKER 0, the last one of ASKER 1. */
-    private static KitchenSheets kitchen() {
-        KitchenSheets x = new KitchenSheets();
-        Asked.land(x, LAND);
-        Asked.sheet(x, 0, 0, 600, 620, 0, 0);
-        Asked.sheet(x, 0, 1, 630, 650, 1, 1);
-        Asked.sheet(x, 0, 2, 640, 660, 0, 1);
-        Asked.sheet(x, 0, 0, 690, 700, 0, 0);
-        Asked.sheet(x, 1, 1, 600, 610, 1, 0);
-        return x;
-    }
-
     private static KitchenSheets with(String rules) {
-        KitchenSheets x = kitchen();
+        KitchenSheets x = Asked.kitchen();
         Asked.rules(x, rules);
         return x;
     }
@@ -171,7 +156,7 @@ public final class PromisesTest {
 
     private static void landReading() {
         T.about("10 land");
-        KitchenSheets x = kitchen();
+        KitchenSheets x = Asked.kitchen();
         Asked.rules(x, "flag amiss;");
         x.mark();
         Asked.feed(x, "ask a 4;");
@@ -280,7 +265,7 @@ public final class PromisesTest {
 
     private static void rulesReading() {
         T.about("11 rules");
-        KitchenSheets x = kitchen();
+        KitchenSheets x = Asked.kitchen();
         T.due("none", x.rules(0), 0);
         T.due("rules", Asked.rules(x, "flag amiss;flag(same 9999and not short0)or made16 ;\nflag card 2 ; flag rare 0;"), 4);
         Asked.feed(x, "flag amiss;");
@@ -364,7 +349,7 @@ public final class PromisesTest {
 
     private static void landTelling() {
         T.about("13 told, 14 question, 15 weight");
-        KitchenSheets x = kitchen();
+        KitchenSheets x = Asked.kitchen();
         long[] told = {2, 3, 5, 0, 5, 12, 4};
         for (int what = 0; what < 7; what++) {
             T.due("told " + what, x.told(what), told[what]);
@@ -400,7 +385,7 @@ public final class PromisesTest {
 
     private static void sheetTaking() {
         T.about("16 sheet");
-        KitchenSheets x = kitchen();
+        KitchenSheets x = Asked.kitchen();
         T.refused(x, "no such tray", x.sheet(4), 1);
         T.refused(x, "no such tray", x.sheet(-1), 1);
         T.refused(x, "missing", x.sheet(0), 2);
@@ -426,7 +411,7 @@ public final class PromisesTest {
 
     private static void lookingAndAltering() {
         T.about("17 look, 18 alter");
-        KitchenSheets x = kitchen();
+        KitchenSheets x = Asked.kitchen();
         long[] seen = {0, 2, 640, 660, 0, 0, -1, 0, 1};
         for (int what = 0; what < 9; what++) {
             T.due("look " + what, x.look(2, what), seen[what]);
@@ -454,7 +439,7 @@ public final class PromisesTest {
 
     private static void cards() {
         T.about("19 card");
-        KitchenSheets x = kitchen();
+        KitchenSheets x = Asked.kitchen();
         for (int said = 2; said >= 0; said--) {
             T.due("card", x.card(3, said), true);
             T.due("look", x.look(3, 4), said);
@@ -470,7 +455,7 @@ public final class PromisesTest {
 
     private static void oddsOfSheets() {
         T.about("20 sheetWeight, 21 odds");
-        KitchenSheets x = kitchen();
+        KitchenSheets x = Asked.kitchen();
         T.due("law", x.sheetWeight(1, false), 96);
         T.due("mind", x.sheetWeight(1, true), 128);
         T.due("law", x.sheetWeight(4, false), 32);
@@ -508,7 +493,7 @@ public final class PromisesTest {
 
     private static void halves() {
         T.about("22 half");
-        KitchenSheets x = kitchen();
+        KitchenSheets x = Asked.kitchen();
         T.fraction(x, "all", x.half(0, 0), 4, 11);
         T.fraction(x, "from 1", x.half(0, 1), 4, 11);
         T.fraction(x, "none", x.half(0, 2), 3, 11);
@@ -527,7 +512,7 @@ public final class PromisesTest {
 
     private static void hours() {
         T.about("23 way, 25 amiss");
-        KitchenSheets x = kitchen();
+        KitchenSheets x = Asked.kitchen();
         T.due("ways", x.way(0, 1) * 10000 + x.way(2, 0) * 100 + x.way(1, 2), 51520);
         T.due("to itself", x.way(2, 2), 0);
         T.due("status", x.status(), 0);
@@ -554,7 +539,7 @@ public final class PromisesTest {
 
     private static void walks() {
         T.about("24 walked");
-        KitchenSheets x = kitchen();
+        KitchenSheets x = Asked.kitchen();
         T.due("walked", x.walked(0), 11);
         T.due("walked", x.walked(1), 16);
         T.due("none", x.walked(3), 0);
@@ -578,7 +563,7 @@ public final class PromisesTest {
 
     private static void groups() {
         T.about("26 group, 32 unlike");
-        KitchenSheets x = kitchen();
+        KitchenSheets x = Asked.kitchen();
         T.due("d 0", x.group(0, 0, 0) * 10 + x.group(0, 0, 1), 20);
         T.due("d 1", x.group(0, 1, 0) * 10 + x.group(0, 1, 1), 42);
         T.due("d 6", x.group(0, 6, 0) * 10 + x.group(0, 6, 1), 40);
@@ -608,7 +593,7 @@ public final class PromisesTest {
         T.fraction(x, "twins without questions", x.twins(), 1, 1);
         T.fraction(x, "a row weighs 1", x.strange(1), 0, 1);
         T.fraction(x, "a row weighs 1", x.strange(2), 1, 1);
-        x = kitchen();
+        x = Asked.kitchen();
         T.fraction(x, "twins", x.twins(), 5, 16);
         T.fraction(x, "strange", x.strange(33), 1, 4);
         T.fraction(x, "less than", x.strange(32), 0, 1);
@@ -629,7 +614,7 @@ public final class PromisesTest {
 
     private static void couples() {
         T.about("29 goes");
-        KitchenSheets x = kitchen();
+        KitchenSheets x = Asked.kitchen();
         T.fraction(x, "goes", x.goes(0, 0, 1), 1, 3);
         T.fraction(x, "goes back", x.goes(0, 1, 0), 1, 2);
         T.refused(x, "no couple", x.goes(1, 0, 1), 6);
@@ -643,7 +628,7 @@ public final class PromisesTest {
 
     private static void numbers() {
         T.about("30 number, 31 bounds");
-        KitchenSheets x = kitchen();
+        KitchenSheets x = Asked.kitchen();
         T.fraction(x, "number", x.number(1, 0, 31), 3, 5);
         T.fraction(x, "number", x.number(0, 1, 18), 1, 1);
         T.fraction(x, "number", x.number(0, 1, 13), 0, 1);
@@ -661,7 +646,7 @@ public final class PromisesTest {
         T.refused(x, "below", x.bounds(1, 0, -1, false), 1);
         T.refused(x, "no such", x.bounds(1, 2, 0, false), 1);
         T.refused(x, "no such", x.bounds(-1, 0, 0, false), 1);
-        Asked.land(x, LAND);
+        Asked.land(x, Asked.KITCHEN);
         T.refused(x, "no SHEETS", x.bounds(0, 0, 0, true), 1);
         T.refused(x, "no SHEETS", x.number(0, 0, 1), 1);
         T.refused(x, "no SHEETS", x.number(0, 0, 0), 6);
@@ -669,7 +654,7 @@ public final class PromisesTest {
 
     private static void doubts() {
         T.about("33 doubtful");
-        KitchenSheets x = kitchen();
+        KitchenSheets x = Asked.kitchen();
         T.due("1 of sixteen", x.doubtful(8, 1), 11);
         T.due("0 of sixteen", x.doubtful(8, 0), 31);
         T.due("4 by 7 is 9 and more", x.doubtful(8, 9), 11);
@@ -741,7 +726,7 @@ public final class PromisesTest {
         T.due("flagged", x.flagged(1), 9);
         T.refused(x, "no such", x.flagged(2), 1);
         T.refused(x, "no such", x.flagged(-1), 1);
-        Asked.land(x, LAND);
+        Asked.land(x, Asked.KITCHEN);
         T.due("without SHEETS", x.flagged(0), 0);
     }
 
@@ -793,7 +778,7 @@ public final class PromisesTest {
 
     private static void worths() {
         T.about("37 worth, 38 deters");
-        KitchenSheets x = kitchen();
+        KitchenSheets x = Asked.kitchen();
         T.due("more than", x.worth(1, 4, 100), 4);
         T.due("worth", x.worth(1, 3, 100), 15);
         T.due("all", x.worth(1, 16, 0), 31);
@@ -812,7 +797,7 @@ public final class PromisesTest {
         T.refused(x, "minute", x.deters(-1, 0), 1);
         T.refused(x, "fine", x.deters(0, 10000), 1);
         T.refused(x, "fine", x.deters(0, -1), 1);
-        Asked.land(x, LAND);
+        Asked.land(x, Asked.KITCHEN);
         T.due("none to deter", x.deters(99, 0), 0);
         Asked.sheet(x, 0, 0, 50, 60, 0, 0);
         Asked.sheet(x, 0, 2, 20, 30, 0, 0);
@@ -821,7 +806,7 @@ public final class PromisesTest {
 
     private static void checks() {
         T.about("39 checked, 40 found");
-        KitchenSheets x = kitchen();
+        KitchenSheets x = Asked.kitchen();
         T.refused(x, "found ahead of any", x.found(), 6);
         int[][] due = {{0, 8, 0, 0}, {1, 8, 1, 2340}, {2, 8, 9, 4680}, {11, 8, 1 + 8, 4680}, {12, 8, 3, 4680},
             {13, 8, 11, 7020}, {999, 8, 11, 7020}, {999, 16, 11, 12288}, {999, 0, 0, 0}};
@@ -857,7 +842,7 @@ public final class PromisesTest {
 
     private static void worlds() {
         T.about("41 world");
-        KitchenSheets x = kitchen();
+        KitchenSheets x = Asked.kitchen();
         drawn(x, 0, 1, new int[][] {{2, 0, 0, 0}, {3, 0, 1, 1}, {3, 0, 0, 0}, {1, 0, 1, 1}, {3, 0, 1, 1}});
         drawn(x, 1, 0, new int[][] {{2, 0, 0, 0}, {3, 1, 1, 1}, {2, 0, 0, 0}, {3, 0, 1, 1}, {3, 0, 0, 0}});
         drawn(x, 9999, 3, new int[][] {{1, 0, 0, 0}, {1, 0, 1, 1}, {1, 0, 1, 0}, {2, 0, 1, 1}, {2, 0, 0, 0}});
