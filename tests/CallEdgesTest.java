@@ -51,7 +51,8 @@ public final class CallEdgesTest {
     // ---- 1 to 4
 
     private static void newObject() {
-        T.sentence("Promise 1", "No QUESTIONS, DOORS, SHEETS, RULES, MARKS; WALK 10, CARDS 14 and 2; TRAYS are MISSING; an empty tape;"
+        T.sentence("Promise 1",
+            "No QUESTIONS, DOORS, SHEETS, RULES, MARKS; WALK 10, CARDS 14 and 2; TRAYS are MISSING; an empty tape;"
             + " the FRACTION 0 by 1; STATUS 0.");
         KitchenSheets x = new KitchenSheets();
         T.due("STATUS", x.status(), 0);
@@ -79,7 +80,8 @@ public final class CallEdgesTest {
     }
 
     private static void lastCalls() {
-        T.sentence("What it is", "An object is used for at most 512 calls after it has been made; what later calls answer is free.");
+        T.sentence("What it is",
+            "An object is used for at most 512 calls after it has been made; what later calls answer is free.");
         KitchenSheets x = new KitchenSheets();
         int calls = 0;
         for (int i = 0; i < 102; i++) {
@@ -123,7 +125,8 @@ public final class CallEdgesTest {
 
     private static void fractionTold() {
         T.sentence("Promise 3", "The top of the FRACTION told latest.");
-        T.sentence("==== 3.", "FRACTIONS are told by top() and bottom() without a common divisor, the bottom above 0; 0 is 0 by 1.");
+        T.sentence("==== 3.",
+            "FRACTIONS are told by top() and bottom() without a common divisor, the bottom above 0; 0 is 0 by 1.");
         KitchenSheets x = Asked.kitchen();
         T.fraction(x, "4 by 8", x.bounds(0, 0, 1, true), 3, 4);
         T.fraction(x, "0 of 3", x.number(0, 1, 13), 0, 1);
@@ -145,7 +148,9 @@ public final class CallEdgesTest {
     // ---- 5 to 8: TRAYS
 
     private static void trayNumbers() {
-        T.sentence("Terms", "TRAYS 0 to 3 are MISSING at first, or rows of 0 to 60 numbers of 8 bits (sort 0), 16 (1), 32 (2) or 64 (3).");
+        T.sentence("Terms",
+            "TRAYS 0 to 3 are MISSING at first, or rows of 0 to 60 numbers of 8 bits (sort 0), 16 (1), 32 (2) or 64"
+            + " (3).");
         KitchenSheets x = new KitchenSheets();
         T.refusedCall(x, 2, "write", 3, 0, 1);
         T.refusedCall(x, 2, "sheet", 0);
@@ -230,8 +235,9 @@ public final class CallEdgesTest {
     }
 
     private static void placesOfTrays() {
-        T.sentence("==== 4.", "1 a number that can't be; no such TRAY, QUESTION, SHEET, RULE; a set with others. 2 the TRAY is MISSING."
-            + " 3 a place that the TRAY has not, or too few numbers.");
+        T.sentence("==== 4.",
+            "1 a number that can't be; no such TRAY, QUESTION, SHEET, RULE; a set with others. 2 the TRAY is"
+            + " MISSING. 3 a place that the TRAY has not, or too few numbers.");
         KitchenSheets x = new KitchenSheets();
         x.tray(1, 2, 4);
         for (int place : new int[] {-1, 4, 60, MIN, MAX}) {
@@ -259,8 +265,9 @@ public final class CallEdgesTest {
     }
 
     private static void pourNumbers() {
-        T.sentence("Promise 8", "(1: below 0, too; 2; 8; 3: there are not so many from there on; of none, the place just behind the last"
-            + " one will do, too; asked in this order)");
+        T.sentence("Promise 8",
+            "(1: below 0, too; 2; 8; 3: there are not so many from there on; of none, the place just behind the"
+            + " last one will do, too; asked in this order)");
         KitchenSheets x = threeTrays();
         for (int below : new int[] {-1, MIN}) {
             T.refusedCall(x, 1, "pour", 0, below, 1, 0, 1);
@@ -286,7 +293,8 @@ public final class CallEdgesTest {
     }
 
     private static void pourPlaces() {
-        T.sentence("Promise 8", "3: there are not so many from there on; of none, the place just behind the last one will do, too;");
+        T.sentence("Promise 8",
+            "3: there are not so many from there on; of none, the place just behind the last one will do, too;");
         KitchenSheets x = threeTrays();
         T.refusedCall(x, 3, "pour", 0, 3, 1, 0, 3);
         T.refusedCall(x, 3, "pour", 0, 5, 1, 0, 1);
@@ -332,7 +340,8 @@ public final class CallEdgesTest {
     // ---- 9 to 15: the LAND
 
     private static void feeding() {
-        T.sentence("Promise 9", "Twenty bytes come behind those on the tape, the highest of each int first: how many it has;");
+        T.sentence("Promise 9",
+            "Twenty bytes come behind those on the tape, the highest of each int first: how many it has;");
         KitchenSheets x = new KitchenSheets();
         T.due("door 12 34;walk 56;.", x.feed(0x646f6f72, 0x20313220, 0x33343b77, 0x616c6b20, 0x35363b0a), 20);
         T.due("door 0 0; cards 7 8;", x.feed(0x646f6f72, 0x20302030, 0x3b206361, 0x72647320, 0x3720383b), 40);
@@ -355,7 +364,8 @@ public final class CallEdgesTest {
     }
 
     private static void faultTold() {
-        T.sentence("Promise 12", "Of the latest land() or rules() with STATUS 0 or 9, what 0: the FAULT (0 without one), 1: its place"
+        T.sentence("Promise 12",
+            "Of the latest land() or rules() with STATUS 0 or 9, what 0: the FAULT (0 without one), 1: its place"
             + " (NONE without). NONE for others, and ahead of any.");
         KitchenSheets x = new KitchenSheets();
         x.land(-1);
@@ -396,7 +406,8 @@ public final class CallEdgesTest {
     }
 
     private static void landTold() {
-        T.sentence("Promise 13", "How many QUESTIONS (what 0), DOORS (1), SHEETS (2), RULES (3); WALK (4), CARDS (5, 6) (1).");
+        T.sentence("Promise 13",
+            "How many QUESTIONS (what 0), DOORS (1), SHEETS (2), RULES (3); WALK (4), CARDS (5, 6) (1).");
         KitchenSheets x = Asked.kitchen();
         Asked.rules(x, "flag amiss;");
         long[] told = {2, 3, 5, 1, 5, 12, 4};
@@ -408,7 +419,9 @@ public final class CallEdgesTest {
     }
 
     private static void questionTold() {
-        T.sentence("Promise 14", "How many ANSWERS a QUESTION has (what 0), by which one its LAW (1), its MIND goes (2) (6: by none) (1).");
+        T.sentence("Promise 14",
+            "How many ANSWERS a QUESTION has (what 0), by which one its LAW (1), its MIND goes (2) (6: by none)"
+            + " (1).");
         KitchenSheets x = new KitchenSheets();
         T.refusedCall(x, 1, "question", 0, 0);
         Asked.land(x, SIX + "law f by a 8 8 8 8;mind f by e 8 8 8 8;law b by a 8 8 8 8;mind c by a 8 8 8 8;");
@@ -450,7 +463,8 @@ public final class CallEdgesTest {
     // ---- 16 to 19: SHEETS
 
     private static void sheetNumbers() {
-        T.sentence("==== 2.", "an ASKER (0 to 3), a DOOR, from a minute to a later one (0 to 1,439), an ANSWER to each QUESTION;");
+        T.sentence("==== 2.",
+            "an ASKER (0 to 3), a DOOR, from a minute to a later one (0 to 1,439), an ANSWER to each QUESTION;");
         KitchenSheets x = new KitchenSheets();
         Asked.land(x, "ask a 4;ask b 2;ask c 3;door 1 1;door 2 2;");
         long[][] right = {{0, 0, 0, 1, 0, 0, 0}, {3, 1, 1438, 1439, 3, 1, 2}, {1, 1, 0, 1439, 1, 0, 2}};
@@ -488,7 +502,8 @@ public final class CallEdgesTest {
     }
 
     private static void sheetOrder() {
-        T.sentence("Promise 16", "ASKER, DOOR, two minutes, an ANSWER for each QUESTION: its number (1, 2, 3, 5, 4; in this order).");
+        T.sentence("Promise 16",
+            "ASKER, DOOR, two minutes, an ANSWER for each QUESTION: its number (1, 2, 3, 5, 4; in this order).");
         KitchenSheets x = Asked.kitchen();
         T.refusedCall(x, 1, "sheet", 4);
         T.refusedCall(x, 1, "sheet", -1);
@@ -546,8 +561,9 @@ public final class CallEdgesTest {
     }
 
     private static void sheetsBeginAnew() {
-        T.sentence("==== 2.", "a CARD (0: none came back, 1: yes, 2: no; 0 at first). TRUTH of a SHEET: not known (0), ASKED (1), MADE (2), HALF"
-            + " (3: from a QUESTION on).");
+        T.sentence("==== 2.",
+            "a CARD (0: none came back, 1: yes, 2: no; 0 at first). TRUTH of a SHEET: not known (0), ASKED (1),"
+            + " MADE (2), HALF (3: from a QUESTION on).");
         KitchenSheets x = Asked.kitchen();
         x.world(1, 5, 6);
         for (int i = 0; i < 5; i++) {
@@ -575,8 +591,9 @@ public final class CallEdgesTest {
     }
 
     private static void lookNumbers() {
-        T.sentence("Promise 17", "Of a SHEET, what 0: ASKER, 1: DOOR, 2, 3: minutes, 4: CARD, 5: TRUTH, 6: of a HALF one from which QUESTION"
-            + " on (6: it is none), 7 on: ANSWERS (1).");
+        T.sentence("Promise 17",
+            "Of a SHEET, what 0: ASKER, 1: DOOR, 2, 3: minutes, 4: CARD, 5: TRUTH, 6: of a HALF one from which"
+            + " QUESTION on (6: it is none), 7 on: ANSWERS (1).");
         KitchenSheets x = Asked.kitchen();
         T.span(x, 0, 4, 0, "look", 0, 0);
         T.span(x, 0, 8, 1, "look", 0, 0);
@@ -658,8 +675,9 @@ public final class CallEdgesTest {
     }
 
     private static void sheetWeights() {
-        T.sentence("==== 2.", "of all QUESTIONS the WEIGHT of the ANSWER (in the row of that QUESTION's ANSWER, if it goes by one), times one"
-            + " another.");
+        T.sentence("==== 2.",
+            "of all QUESTIONS the WEIGHT of the ANSWER (in the row of that QUESTION's ANSWER, if it goes by one),"
+            + " times one another.");
         KitchenSheets x = sixes("16 0", "15 1", "");
         T.due("the most", x.sheetWeight(0, false), 16777216);
         T.due("mind", x.sheetWeight(0, true), 11390625);
@@ -752,8 +770,10 @@ public final class CallEdgesTest {
     }
 
     private static void halves() {
-        T.sentence("==== 2.", "HALF of a SHEET from a QUESTION k on (0: all; as many as there are: none): the LAW's WEIGHTS ahead of k, the"
-            + " MIND's from it on, times one another, by the same of all k (0 to all) together. (CARDS do not count.)");
+        T.sentence("==== 2.",
+            "HALF of a SHEET from a QUESTION k on (0: all; as many as there are: none): the LAW's WEIGHTS ahead of"
+            + " k, the MIND's from it on, times one another, by the same of all k (0 to all) together. (CARDS do not"
+            + " count.)");
         KitchenSheets x = new KitchenSheets();
         T.refusedCall(x, 1, "half", 0, 0);
         Asked.land(x, "ask a 2;ask b 2;law a 12 4;mind a 3 13;law b 5 11;door 0 0;");
@@ -787,8 +807,9 @@ public final class CallEdgesTest {
     // ---- 23 to 25: hours
 
     private static void ways() {
-        T.sentence("==== 2.", "STEPS from DOOR to DOOR: as many as X and Y differ together; they take WALK by 10 minutes each, all together"
-            + " rounded up.");
+        T.sentence("==== 2.",
+            "STEPS from DOOR to DOOR: as many as X and Y differ together; they take WALK by 10 minutes each, all"
+            + " together rounded up.");
         KitchenSheets x = new KitchenSheets();
         T.refusedCall(x, 1, "way", 0, 0);
         String doors = "door 0 0;door 1 0;door 5 5;door 5 6;door 99 99;door 0 99;";
@@ -821,7 +842,8 @@ public final class CallEdgesTest {
     }
 
     private static void fits() {
-        T.sentence("==== 2.", "One FITS behind another one, if it begins no sooner than that one's end and the way from DOOR to DOOR.");
+        T.sentence("==== 2.",
+            "One FITS behind another one, if it begins no sooner than that one's end and the way from DOOR to DOOR.");
         KitchenSheets x = new KitchenSheets();
         Asked.land(x, "door 0 0;door 11 0;walk 1;");
         Asked.sheet(x, 0, 0, 10, 20);
@@ -838,7 +860,9 @@ public final class CallEdgesTest {
         T.due("at one DOOR a minute sooner", x.amiss(3) * 1000 + x.walked(3), 1064);
         T.sentence("Promise 25", "How many couples of an ASKER are AMISS (1).");
         T.span(x, 0, 3, 0, "amiss", 0);
-        T.sentence("==== 2.", "AMISS: couples of SHEETS of an ASKER, of which the later one in ORDER does not FIT behind the other one.");
+        T.sentence("==== 2.",
+            "AMISS: couples of SHEETS of an ASKER, of which the later one in ORDER does not FIT behind the other"
+            + " one.");
         Asked.land(x, "door 0 0;");
         T.due("of none", x.amiss(0), 0);
         Asked.sheet(x, 0, 0, 0, 1439);
@@ -873,7 +897,8 @@ public final class CallEdgesTest {
             Asked.sheet(x, 0, 0, 100 - i, 200);
         }
         T.due("one of sixteen: the first in ORDER", x.walked(0), 32768);
-        T.sentence("==== 2.", "WALKED: the most SHEETS of an ASKER, in ORDER, each of which FITS behind the one ahead of it there;");
+        T.sentence("==== 2.",
+            "WALKED: the most SHEETS of an ASKER, in ORDER, each of which FITS behind the one ahead of it there;");
         x = new KitchenSheets();
         Asked.land(x, "door 0 0;");
         Asked.sheet(x, 0, 0, 10, 50);
@@ -940,7 +965,9 @@ public final class CallEdgesTest {
         T.refusedCall(x, 1, "group", 0, 7, 0);
         T.refusedCall(x, 1, "group", 0, 0, 2);
         T.sentence("==== 2.", "ALIKE by d (0 to 6) are two SHEETS that differ in at most d ANSWERS.");
-        T.sentence("==== 2.", "GROUP of an ASKER by d: of its SHEETS the one to which most of them are ALIKE by d (itself, too), the first.");
+        T.sentence("==== 2.",
+            "GROUP of an ASKER by d: of its SHEETS the one to which most of them are ALIKE by d (itself, too), the"
+            + " first.");
         int[][] due = {{1, 0}, {3, 1}, {5, 2}, {7, 3}, {7, 2}, {7, 1}, {7, 0}};
         for (int d = 0; d <= 6; d++) {
             T.due("how many by " + d, x.group(1, d, 0), due[d][0]);
@@ -1023,8 +1050,9 @@ public final class CallEdgesTest {
         T.refusedCall(x, 1, "goes", 2, 1, 1);
         T.refusedCall(x, 6, "goes", 1, 0, 1);
         T.refusedCall(x, 6, "goes", 3, 1, 0);
-        T.sentence("==== 2.", "GOES of q and r for an ASKER: of all couples of its SHEETS with the same ANSWER to q how many have the same to r:"
-            + " a FRACTION.");
+        T.sentence("==== 2.",
+            "GOES of q and r for an ASKER: of all couples of its SHEETS with the same ANSWER to q how many have the"
+            + " same to r: a FRACTION.");
         T.fraction(x, "of three one", x.goes(0, 0, 1), 1, 3);
         T.fraction(x, "of two one", x.goes(0, 1, 0), 1, 2);
         Asked.sheet(x, 1, 1, 1, 2, 1, 1);
@@ -1046,8 +1074,9 @@ public final class CallEdgesTest {
         T.refusedCall(x, 1, "number", 0, 2, 0);
         T.refusedCall(x, 1, "number", 0, 0, 33);
         T.refusedCall(x, 1, "number", 0, 0, MIN + 1);
-        T.sentence("==== 2.", "NUMBER of an ANSWER to a QUESTION over a set of SHEETS (1 for SHEET 0, 2 for 1 ..): how many have it, by how many"
-            + " they are.");
+        T.sentence("==== 2.",
+            "NUMBER of an ANSWER to a QUESTION over a set of SHEETS (1 for SHEET 0, 2 for 1 ..): how many have it,"
+            + " by how many they are.");
         T.fraction(x, "SHEET 0", x.number(0, 0, 1), 1, 1);
         T.fraction(x, "SHEET 1", x.number(0, 0, 2), 0, 1);
         T.fraction(x, "SHEET 4, the last one", x.number(0, 1, 16), 1, 1);
@@ -1066,8 +1095,9 @@ public final class CallEdgesTest {
     }
 
     private static void bounds() {
-        T.sentence("==== 2.", "BOUNDS of so many: the least and the most that it can be over all, if so many SHEETS (fewer than there are) are"
-            + " left out.");
+        T.sentence("==== 2.",
+            "BOUNDS of so many: the least and the most that it can be over all, if so many SHEETS (fewer than there"
+            + " are) are left out.");
         KitchenSheets x = new KitchenSheets();
         T.refusedCall(x, 1, "bounds", 0, 0, 0, 0);
         Asked.land(x, "ask a 3;ask b 2;door 0 0;");
@@ -1122,7 +1152,9 @@ public final class CallEdgesTest {
     }
 
     private static void doubtful() {
-        T.sentence("Promise 33", "The set of SHEETS whose ODDS by a SHARE are so many (0 to 16) of sixteen or more (none whose both weigh 0) (1).");
+        T.sentence("Promise 33",
+            "The set of SHEETS whose ODDS by a SHARE are so many (0 to 16) of sixteen or more (none whose both"
+            + " weigh 0) (1).");
         KitchenSheets x = new KitchenSheets();
         T.due("of none", x.doubtful(8, 0), 0);
         T.span(x, 0, 16, 0, "doubtful", 0, 8);

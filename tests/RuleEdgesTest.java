@@ -274,14 +274,14 @@ public final class RuleEdgesTest {
         T.refusedCall(x, 6, "hides", 1, 2);
         T.refusedCall(x, 6, "hides", 2, 4);
         T.refusedCall(x, 6, "hides", 3, 4);
-        T.sentence("==== 3.", "HIDES: the fewest ANSWERS of a SHEET that must be other ones, so that a RULE does not flag it (all other SHEETS"
-            + " as they are): how many;");
+        T.sentence("==== 3.",
+            "HIDES: the fewest ANSWERS of a SHEET that must be other ones, so that a RULE does not flag it (all"
+            + " other SHEETS as they are): how many;");
         T.due("it is not flagged at all", x.hides(0, 1), 0);
         T.due("its own row", row(x, 2), 11);
         T.due("nor this one", x.hides(1, 4), 0);
         T.due("its own row", row(x, 2), 10);
-        Asked.land(x, "ask a 2;law a 0 16;ask b 2;law b 0 16;ask c 2;law c 0 16;ask d 2;law d 0 16;ask e 2;law e 0 16;ask f 2;law f 0 16;"
-            + "door 0 0;");
+        Asked.land(x, SIX + "law a 0 16;law b 0 16;law c 0 16;law d 0 16;law e 0 16;law f 0 16;door 0 0;");
         Asked.rules(x, "flag rare 1;");
         Asked.sheet(x, 0, 0, 1, 2, 0, 0, 0, 0, 0, 0);
         Asked.sheet(x, 0, 0, 1, 2, 1, 0, 1, 1, 1, 1);
@@ -358,8 +358,9 @@ public final class RuleEdgesTest {
     }
 
     private static void hidden() {
-        T.sentence("Promise 36", "The ANSWER to a QUESTION by hides() latest with STATUS 0 (6: there was none, asked first; 1: no such QUESTION"
-            + " then).");
+        T.sentence("Promise 36",
+            "The ANSWER to a QUESTION by hides() latest with STATUS 0 (6: there was none, asked first; 1: no such"
+            + " QUESTION then).");
         KitchenSheets x = with("flag same 1;flag amiss;");
         for (int question : new int[] {0, 1, 2, -1, MIN, MAX}) {
             T.refusedCall(x, 6, "hidden", question);
@@ -389,7 +390,9 @@ public final class RuleEdgesTest {
     // ---- 37, 38: worth, deters
 
     private static void worth() {
-        T.sentence("==== 3.", "times 16 times the worth of a minute (0 to 99) are more than a risk (0 to 16) times a fine (0 to 9,999).");
+        T.sentence("==== 3.",
+            "times 16 times the worth of a minute (0 to 99) are more than a risk (0 to 16) times a fine (0 to"
+            + " 9,999).");
         KitchenSheets x = new KitchenSheets();
         T.due("of none", x.worth(99, 0, 0), 0);
         T.span(x, 0, 99, 0, "worth", 1, 1, 1);
@@ -415,8 +418,9 @@ public final class RuleEdgesTest {
     }
 
     private static void worthWays() {
-        T.sentence("==== 3.", "the minutes that it took, and the way from the DOOR of the one ahead of it in ORDER of its ASKER (none for the"
-            + " first)");
+        T.sentence("==== 3.",
+            "the minutes that it took, and the way from the DOOR of the one ahead of it in ORDER of its ASKER (none"
+            + " for the first)");
         KitchenSheets x = new KitchenSheets();
         Asked.land(x, "door 0 0;door 3 0;door 99 99;walk 7;");
         Asked.sheet(x, 0, 1, 200, 210);
@@ -519,7 +523,8 @@ public final class RuleEdgesTest {
     }
 
     private static void checkedWorths() {
-        T.sentence("==== 3.", "what its SHEETS are worth to it: 4,096 times ODDS by a SHARE, rounded down (0, if there are none);");
+        T.sentence("==== 3.",
+            "what its SHEETS are worth to it: 4,096 times ODDS by a SHARE, rounded down (0, if there are none);");
         KitchenSheets x = new KitchenSheets();
         Asked.land(x, "ask a 4;law a 8 8 0 0;mind a 4 0 12 0;door 0 0;");
         Asked.sheet(x, 0, 0, 1, 2, 0);
@@ -593,7 +598,8 @@ public final class RuleEdgesTest {
     // ---- 41, 42: world, score
 
     private static void worldNumbers() {
-        T.sentence("==== 3.", "WORLD: a seed (0 to 9,999), a SHARE of MADE ones, one of HALF ones (of sixteen, together at most 16)");
+        T.sentence("==== 3.",
+            "WORLD: a seed (0 to 9,999), a SHARE of MADE ones, one of HALF ones (of sixteen, together at most 16)");
         KitchenSheets x = new KitchenSheets();
         T.due("of none", x.world(0, 0, 0), 0);
         x = Asked.kitchen();
@@ -639,8 +645,9 @@ public final class RuleEdgesTest {
                 T.due("from", x.look(i, 6), truth == 3 ? 0 : -1);
             }
         }
-        T.sentence("==== 3.", "Draws: s, at first the seed, becomes what is left of s times 2,053 and 13,849 by 65,536; the draw by n is the rest"
-            + " of s by 8, rounded down, by n.");
+        T.sentence("==== 3.",
+            "Draws: s, at first the seed, becomes what is left of s times 2,053 and 13,849 by 65,536; the draw by n"
+            + " is the rest of s by 8, rounded down, by n.");
         int[] last = {12, 1, 11, 11, 12, 15, 14, 12, 3, 4};
         T.due("seed 9,999", x.world(9999, 12, 2), 2);
         for (int i = 0; i < 10; i++) {
@@ -673,8 +680,9 @@ public final class RuleEdgesTest {
 
     private static void worldHalf() {
         T.sentence("==== 3.", "HALF, from the QUESTION on that a draw by how many there are tells");
-        T.sentence("==== 3.", "tells its ANSWER: the first with which the WEIGHTS of its row (by LAW, or MIND: of MADE ones, of HALF ones from there"
-            + " on) up to it are more than that together.");
+        T.sentence("==== 3.",
+            "tells its ANSWER: the first with which the WEIGHTS of its row (by LAW, or MIND: of MADE ones, of HALF"
+            + " ones from there on) up to it are more than that together.");
         // s by 8 of the second draw: 402 from seed 0, 2,965 from seed 1, 4,513 from seed 9,999.
         drawn(1, 0, 0, 4, 0, 1);
         drawn(2, 0, 0, 4, 0, 11);
@@ -700,7 +708,8 @@ public final class RuleEdgesTest {
     }
 
     private static void worldAnswers() {
-        T.sentence("==== 3.", "Then QUESTION by QUESTION a draw by 16 tells its ANSWER: the first with which the WEIGHTS of its row");
+        T.sentence("==== 3.",
+            "Then QUESTION by QUESTION a draw by 16 tells its ANSWER: the first with which the WEIGHTS of its row");
         // Seed 0: 3, then 2, then 0.
         answered("ask a 2;law a 2 14;", 0, 3, 0, 1);
         answered("ask a 2;law a 3 13;", 0, 3, 0, 0);
@@ -768,8 +777,9 @@ public final class RuleEdgesTest {
         T.span(x, 0, 2, 0, "score", 0, 0);
         T.span(x, 0, 2, 1, "score", 0, 0);
         scores(x, 2, 0, 0, 0);
-        T.sentence("==== 3.", "how many of those FLAGGED are MADE or HALF (CAUGHT), are ASKED (WRONGED), how many MADE or HALF ones are not FLAGGED"
-            + " (MISSED).");
+        T.sentence("==== 3.",
+            "how many of those FLAGGED are MADE or HALF (CAUGHT), are ASKED (WRONGED), how many MADE or HALF ones"
+            + " are not FLAGGED (MISSED).");
         x.world(0, 5, 6);
         T.due("MADE, HALF, HALF, ASKED, HALF", x.look(0, 5) * 100 + x.look(3, 5) * 10 + x.look(4, 5), 213);
         scores(x, 0, 3, 1, 1);
@@ -812,8 +822,9 @@ public final class RuleEdgesTest {
     // ---- 43, 44: mark, back
 
     private static void markKeepsLand() {
-        T.sentence("==== 3.", "MARKS, at most 3: the LAND, SHEETS, CARDS, TRUTH, RULES are kept as they are; all is taken back to the latest MARK,"
-            + " which is gone then.");
+        T.sentence("==== 3.",
+            "MARKS, at most 3: the LAND, SHEETS, CARDS, TRUTH, RULES are kept as they are; all is taken back to the"
+            + " latest MARK, which is gone then.");
         KitchenSheets x = new KitchenSheets();
         Asked.land(x, "ask a 2;ask b 3;law b by a 1 2 13 3 4 9;mind b 5 5 6;door 3 4;door 99 0;walk 77;cards 1 15;");
         Asked.rules(x, "flag late 10;flag amiss and not card 1;");
@@ -845,12 +856,14 @@ public final class RuleEdgesTest {
 
     private static void markKeepsRules() {
         T.sentence("==== 3.", "the LAND, SHEETS, CARDS, TRUTH, RULES are kept as they are");
-        KitchenSheets x = with("flag late 655;flag not (late 655 or same 1 and card 0) and short 15;flag same 1 and not not not late 650;");
+        KitchenSheets x = with("flag late 655;flag not (late 655 or same 1 and card 0) and short 15;"
+            + "flag same 1 and not not not late 650;");
         long[] due = {12, 16, 1};
         for (int again = 0; again < 3; again++) {
             T.due("mark", x.mark(), 1);
             for (int i = 0; i < 2; i++) {
-                Asked.rules(x, "flag same 0 or card 1 or card 2 or amiss;flag amiss and not late 0 and late 1 and late 2 and late 3;");
+                Asked.rules(x, "flag same 0 or card 1 or card 2 or amiss;"
+                    + "flag amiss and not late 0 and late 1 and late 2 and late 3;");
                 T.due("others", x.flagged(0) * 10 + x.flagged(1), 310);
             }
             T.due("back", x.back(), 0);

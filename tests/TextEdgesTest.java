@@ -162,7 +162,8 @@ public final class TextEdgesTest {
         landFault("walk ^991;", 4);
         landFault("^doorway 1 1;", 2);
         landFault("door 1 1^", 2);
-        T.due("a WORD ends at a digit, a NUMBER at a letter", land("ask a2;law a8 8;ask b3;mind b by a1 2 13 0 8 8;", 2).weight(1, true, 1, 2), 8);
+        KitchenSheets x = land("ask a2;law a8 8;ask b3;mind b by a1 2 13 0 8 8;", 2);
+        T.due("a WORD ends at a digit, a NUMBER at a letter", x.weight(1, true, 1, 2), 8);
     }
 
     private static int kindOfFirst(int b) {
@@ -221,7 +222,8 @@ public final class TextEdgesTest {
     // ---- the LAND: what stands where
 
     private static void parts() {
-        T.sentence(TERMS, "LAND: {PART}. PART: ask NAME NUMBER ; or law NAME [by NAME] NUMBER {NUMBER} ; or mind NAME [by NAME]"
+        T.sentence(TERMS,
+            "LAND: {PART}. PART: ask NAME NUMBER ; or law NAME [by NAME] NUMBER {NUMBER} ; or mind NAME [by NAME]"
             + " NUMBER {NUMBER} ; or door NUMBER NUMBER ; or walk NUMBER ; or cards NUMBER NUMBER ;");
         for (String token : NO_PART) {
             landFault("^" + token, 2);
@@ -504,8 +506,9 @@ public final class TextEdgesTest {
         T.sentence(TERMS, "Without it: one row, of 16 shared out, the first ones one more.");
         int[][] due = {{8, 8}, {6, 5, 5}, {4, 4, 4, 4}};
         for (int n = 2; n <= 4; n++) {
-            String[] lands = {"ask b 3;ask a " + n + ";", "ask b 3;ask a " + n + ";law a " + (n == 2 ? "0 16;" : n == 3 ? "0 0 16;" : "0 0 0 16;"),
-                "ask b 3;ask a " + n + ";mind a by b" + (n == 2 ? Asked.many(" 0 16", 3) : n == 3 ? Asked.many(" 0 0 16", 3) : Asked.many(" 0 0 0 16", 3)) + ";"};
+            String asks = "ask b 3;ask a " + n + ";";
+            String sure = Asked.many(" 0", n - 1) + " 16";
+            String[] lands = {asks, asks + "law a" + sure + ";", asks + "mind a by b" + Asked.many(sure, 3) + ";"};
             for (int which = 0; which < 3; which++) {
                 KitchenSheets x = land(lands[which], 2);
                 for (int a = 0; a < n; a++) {
@@ -588,8 +591,9 @@ public final class TextEdgesTest {
     }
 
     private static void rulesParts() {
-        T.sentence(RULES, "RULE: flag TERM {or TERM} ; TERM: TEST {and TEST}. TEST: not TEST, or ( TERM {or TERM} ), or same NUMBER,"
-            + " or short NUMBER, or late NUMBER, or rare NUMBER, or made NUMBER, or card NUMBER, or amiss.");
+        T.sentence(RULES,
+            "RULE: flag TERM {or TERM} ; TERM: TEST {and TEST}. TEST: not TEST, or ( TERM {or TERM} ), or same"
+            + " NUMBER, or short NUMBER, or late NUMBER, or rare NUMBER, or made NUMBER, or card NUMBER, or amiss.");
         for (String token : NO_RULE) {
             ruleFault("^" + token, 2);
             ruleFault("flag amiss; ^" + token + " 2;", 2);
@@ -640,8 +644,10 @@ public final class TextEdgesTest {
         }
         for (int nots = 0; nots <= 8; nots++) {
             int brackets = 8 - nots;
-            ruleFault("flag " + Asked.many("not ", nots) + Asked.many("(", brackets) + "^amiss" + Asked.many(")", brackets) + ";", 5);
-            ruleFault("flag " + Asked.many("(", brackets) + Asked.many("not ", nots) + "^same 1" + Asked.many(")", brackets) + ";", 5);
+            String open = Asked.many("(", brackets);
+            String close = Asked.many(")", brackets) + ";";
+            ruleFault("flag " + Asked.many("not ", nots) + open + "^amiss" + close, 5);
+            ruleFault("flag " + open + Asked.many("not ", nots) + "^same 1" + close, 5);
         }
         String eight = "flag amiss and not (not (not (not (";
         for (String test : new String[] {"same 1", "short 1", "late 1", "rare 1", "made 1", "card 1", "amiss", "not amiss", "(amiss)",
