@@ -654,6 +654,12 @@ public final class TextEdgesTest {
             "not", "(", "made 17", "card", "same ~"}) {
             ruleFault(eight + "^" + test, 5);
         }
+        String nots = "flag " + Asked.many("not ", 8);
+        ruleFault(nots + "^not amiss;", 5);
+        ruleFault(nots + "^not not not not;", 5);
+        ruleFault(nots + "^not", 5);
+        ruleFault(nots + "^(amiss);", 5);
+        ruleFault("flag not not not (not not not not ^not amiss);", 5);
         ruleFault("flag (((((((amiss and amiss or amiss and not ^amiss)))))));", 5);
         ruleFault("flag (((((((amiss) or not (^amiss)))))));", 5);
         rules("flag (((((((amiss) or not amiss))))));", 1);
