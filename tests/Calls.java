@@ -12,6 +12,7 @@ final class Calls {
 
     static long call(KitchenSheets x, String name, long... a) {
         switch (name) {
+            case "status": return x.status();
             case "top": return x.top();
             case "bottom": return x.bottom();
             case "tray": return bit(x.tray((int) a[0], (int) a[1], (int) a[2]));
